@@ -9,11 +9,14 @@ import java.util.List;
 public final class ModelTest {
     private static final int OBJECTS = 4000;
     private static final int CALLS = 512;
+    private static final int MOST_OF_A_TURN = 20;
     private static final long ARGUMENT = -1001;
     private static final long STATE = -1002;
 
     private static int wrong = 0;
     private static int most = 0;
+    // Calls made on the object that is looked at; nothing is promised beyond CALLS of them.
+    private static int made = 0;
     private static long seed = 20261116;
 
     // Counts how often each answer of check and runFault came, so that a fault never met is seen.
@@ -293,6 +296,7 @@ public final class ModelTest {
     }
 
     private static void due(String call, long got, long want) {
+        made++;
         if (got != want) {
             wrong++;
             if (wrong < 20) {
@@ -335,10 +339,10 @@ public final class ModelTest {
         int p = argument(3);
         int e = argument(4);
         switch (kind) {
-            case 0, 1 -> due("make", x.make(v, p), m.in(v, 0, 3) && m.in(p, 0, 2) ? m.add("MAKE", v, p) : -1);
-            case 2, 3, 4 -> due("call", x.call(v, e), m.in(v, 0, 3) && m.in(e, 0, 3) ? m.add("CALL", v, e) : -1);
-            case 5 -> due("move", x.move(v, w), m.in(v, 0, 3) && m.in(w, 0, 3) ? m.add("MOVE", v, w) : -1);
-            case 6, 7 -> due("drop", x.drop(v), m.in(v, 0, 3) ? m.add("DROP", v, 0) : -1);
+            case 0, 1 -> due("make", x.make(v, p), Model.in(v, 0, 3) && Model.in(p, 0, 2) ? m.add("MAKE", v, p) : -1);
+            case 2, 3, 4 -> due("call", x.call(v, e), Model.in(v, 0, 3) && Model.in(e, 0, 3) ? m.add("CALL", v, e) : -1);
+            case 5 -> due("move", x.move(v, w), Model.in(v, 0, 3) && Model.in(w, 0, 3) ? m.add("MOVE", v, w) : -1);
+            case 6, 7 -> due("drop", x.drop(v), Model.in(v, 0, 3) ? m.add("DROP", v, 0) : -1);
             case 8, 9 -> due("choose", x.choose(), m.begin("IF"));
             case 10 -> due("otherwise", x.otherwise(), m.otherwise());
             case 11, 12 -> due("repeat", x.repeat(), m.begin("WHILE"));
@@ -423,9 +427,10 @@ public final class ModelTest {
     private static void oneObject(int which) {
         StateTypes x = new StateTypes();
         Model m = new Model();
+        made = 0;
         setUp(x, m, 2 + which % 5);
         int share = 2 + which % 9;
-        for (int calls = 80; calls < CALLS; calls += 8) {
+        while (made < CALLS - MOST_OF_A_TURN) {
             if (pick(share) > 0) {
                 build(x, m, pick(17));
             } else {
@@ -438,6 +443,7 @@ public final class ModelTest {
             if (pick(4 + 3 * share) == 0) {
                 x.clear();
                 m.clear();
+                made++;
             }
             if (pick(30) == 0) {
                 int p = argument(3);

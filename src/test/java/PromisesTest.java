@@ -1,58 +1,6 @@
 /** One method a promise of the document: ordinary inputs, its edges, wrong inputs. */
-public final class PromisesTest {
-    private static final int ARGUMENT = -1001;
-    private static final int STATE = -1002;
+public final class PromisesTest extends Due {
     private static final int[] WRONG = {-1, Integer.MIN_VALUE, Integer.MAX_VALUE};
-
-    private static int wrong = 0;
-
-    private static void due(String what, int got, int want) {
-        if (got != want) {
-            wrong++;
-            System.out.println(what + " answered " + got + ", due is " + want);
-        }
-    }
-
-    private static void due(String what, boolean got, boolean want) {
-        due(what, got ? 1 : 0, want ? 1 : 0);
-    }
-
-    private static int run(StateTypes x, int bits, int n) {
-        try {
-            return x.run(bits, n);
-        } catch (IllegalArgumentException e) {
-            return ARGUMENT;
-        } catch (IllegalStateException e) {
-            return STATE;
-        }
-    }
-
-    /** Protocol 0: event 0 opens (0 to 1), 1 reads (1 to 1), 2 closes (1 to 2); 2 is final. */
-    private static StateTypes withFile() {
-        StateTypes x = new StateTypes();
-        x.lead(0, 0, 0, 1);
-        x.lead(0, 1, 1, 1);
-        x.lead(0, 1, 2, 2);
-        x.mark(0, 2, true);
-        return x;
-    }
-
-    private static void fill(StateTypes x, int statements) {
-        for (int i = x.size(); i < statements; i++) {
-            x.drop(0);
-        }
-    }
-
-    private static void dueChecked(String what, StateTypes x, int fault, int place) {
-        due(what + ": check", x.check(), fault);
-        due(what + ": faultAt", x.faultAt(), place);
-    }
-
-    private static void dueRun(String what, StateTypes x, int fault, int place, int steps) {
-        due(what + ": runFault", x.runFault(), fault);
-        due(what + ": runAt", x.runAt(), place);
-        due(what + ": steps", x.steps(), steps);
-    }
 
     private static void promise1NewObject() {
         StateTypes x = new StateTypes();
@@ -742,9 +690,6 @@ public final class PromisesTest {
         promise19RunAt();
         promise20Steps();
         promise21Left();
-        System.out.println(wrong == 0 ? "all answers are as due" : wrong + " answers are not as due");
-        if (wrong != 0) {
-            System.exit(1);
-        }
+        report();
     }
 }
