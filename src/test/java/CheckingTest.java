@@ -304,6 +304,24 @@ public final class CheckingTest extends Due {
         due("an empty program", toldOfChecking(x), toldOfNone(-1));
     }
 
+    private static void acceptedNeverHasAFault() {
+        sentence("A program that is accepted never makes a call that the object's protocol does not allow at that "
+                + "moment, and leaves every object in a state in which it may be left.");
+        for (String program : new String[] {"", "while, end, if, end",
+                "make 0 0, while, call 0 0, if, call 0 3, else, drop 0, make 0 0, end, end, drop 0",
+                "if, make 0 0, call 0 0, else, make 0 0, call 0 1, end, while, call 0 3, call 0 2, call 0 3, call 0 1, end",
+                "make 3 2, while, while, move 3 0, if, call 0 2, call 0 3, end, move 0 3, end, if, drop 3, make 3 2, end, end",
+                "if, while, make 0 0, drop 0, end, else, if, make 1 1, drop 1, else, while, end, end, end"}) {
+            StateTypes x = withStates();
+            give(x, program);
+            dueChecked(program, x, 0, -1);
+            for (int bits = 0; bits < 128; bits++) {
+                due(program + ": run " + bits, run(x, bits, 7) >= 0, true);
+                due(program + ": runFault", x.runFault(), 0);
+            }
+        }
+    }
+
     private static void aRunIsNoChecking() {
         sentence("faultAt and held tell of the latest checking, not of a run");
         for (String later : new String[] {"make 2 2, drop 2, make 3 0, make 1 1", "make 3 2, if, else, drop 0, end"}) {
@@ -333,6 +351,7 @@ public final class CheckingTest extends Due {
         openBlocks();
         heldWhereItCame();
         heldWhereItDidNotCome();
+        acceptedNeverHasAFault();
         aRunIsNoChecking();
         report();
     }

@@ -378,10 +378,11 @@ public final class ModelTest {
         most = Math.max(most, m.steps);
     }
 
-    private static void checkBoth(StateTypes x, Model m) {
+    private static int checkBoth(StateTypes x, Model m) {
         int want = m.check();
         due("check", x.check(), want);
         CHECKED[want]++;
+        return want;
     }
 
     /** A program of calls, branches and loops alone: it runs long, and meets few faults. */
@@ -414,10 +415,13 @@ public final class ModelTest {
         while (!m.open.isEmpty()) {
             due("end", x.end(), m.end());
         }
-        checkBoth(x, m);
+        boolean accepted = checkBoth(x, m) == 0;
         for (int k = 0; k < 10; k++) {
             runBoth(x, m);
             ask(x, m);
+            if (accepted) {
+                due("runFault of an accepted program", x.runFault(), 0);
+            }
         }
         for (int i = 0; i < 40; i++) {
             due("held", x.held(i, 0), m.held(i, 0));

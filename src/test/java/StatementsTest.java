@@ -381,6 +381,25 @@ public final class StatementsTest extends Due {
         due("left", x.left(3), 1);
     }
 
+    private static void at512Calls() {
+        sentence("An object is used for at most 512 calls after it has been made");
+        StateTypes x = withFinalStart();
+        for (int round = 0; round < 12; round++) {
+            x.clear();
+            for (int i = 0; i < 40; i++) {
+                due("round " + round, x.make(3, 2), i);
+            }
+        }
+        for (int calls = 3 + 12 * 41; calls < 507; calls++) {
+            due("full", x.choose(), -1);
+        }
+        due("call 508", x.check(), 1);
+        due("call 509", x.faultAt(), 1);
+        due("call 510", run(x, -1, 32), STATE);
+        due("call 511", x.runAt(), 1);
+        due("call 512", x.left(3), 16);
+    }
+
     public static void main(String[] args) {
         numbers();
         atMostForty();
@@ -397,6 +416,7 @@ public final class StatementsTest extends Due {
         otherwiseBeginsElse();
         end();
         clear();
+        at512Calls();
         report();
     }
 }

@@ -191,6 +191,12 @@ abstract class Due {
             all.add((1 << shift) + bound - 1);
             all.add(-(1 << shift));
         }
+        for (int times : new int[] {3, 5}) {
+            for (long part = 1; part < times; part++) {
+                all.add((int) ((part << 32) / times));
+                all.add((int) ((part << 32) / times + 1));
+            }
+        }
         return all;
     }
 
